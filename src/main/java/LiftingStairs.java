@@ -225,30 +225,32 @@ public final class LiftingStairs {
     private int makeMovesOfText() {
         int made = 0;
         for (int at = 0; at < text.length; at++) {
-            if (text.isMoveStart(at)) {
-                if (makeMoveAt(at) < 0) {
-                    return made;
-                }
-                made++;
+            if (!text.isMoveStart(at)) {
+                continue;
             }
+            if (makeMoveAt(at) < 0) {
+                return made;
+            }
+            made++;
         }
         return made;
     }
 
     private int makeMoveAt(int at) {
         char kind = text.signAt(at);
-        switch (kind) {
-            case 'p':
-                return game.makePass();
-            case 'j':
-                return game.addClimber();
-            case 'c':
-                return game.layCarpet(text.numberAt(at + 1), text.numberAt(text.behindArrow(at)));
-            case 'l':
-                return game.putLanding(text.numberAt(at + 1));
-            default:
-                return game.makeRoll(text.numberAt(at));
+        if (kind == 'p') {
+            return game.makePass();
         }
+        if (kind == 'j') {
+            return game.addClimber();
+        }
+        if (kind == 'c') {
+            return game.layCarpet(text.numberAt(at + 1), text.numberAt(text.behindArrow(at)));
+        }
+        if (kind == 'l') {
+            return game.putLanding(text.numberAt(at + 1));
+        }
+        return game.makeRoll(text.numberAt(at));
     }
 
     private static boolean isRoll(int number) {
@@ -434,10 +436,10 @@ public final class LiftingStairs {
         }
 
         private void comeTo(int climber, int step) {
-            if (step >= top) {
+            if (!isBelowTop(step)) {
                 tops[climber]++;
                 places[climber] = 0;
-            } else if (isUpperEnd(step)) {
+            } else if (lowerEnds[step] != NONE) {
                 slips[climber]++;
                 places[climber] = lowerEnds[step];
             } else {
@@ -462,11 +464,11 @@ public final class LiftingStairs {
         }
 
         boolean isLanding(int step) {
-            return isBelowTop(step) && landings[step];
+            return step >= 0 && step < top && landings[step];
         }
 
         boolean isUpperEnd(int step) {
-            return isBelowTop(step) && lowerEnds[step] != NONE;
+            return step >= 0 && step < top && lowerEnds[step] != NONE;
         }
 
         int climbersOn(int step) {
@@ -747,34 +749,38 @@ public final class LiftingStairs {
                 case MOVE:
                     return wantedBehindMoveStart(sign);
                 case COMMA:
-                    return sign == ',' ? MOVE : REFUSED;
+                    return wantedBehindComma(sign);
                 case UPPER:
                     return wantedBehindNumberStart(sign, ARROW, DIGIT_OR_ARROW);
                 case DIGIT_OR_ARROW:
-                    return isDigit(sign) ? ARROW : wantedBehind(ARROW, sign);
+                    return isDigit(sign) ? ARROW : wantedBehindArrow(sign);
                 case ARROW:
-                    return sign == '>' ? LAST_NUMBER : REFUSED;
+                    return wantedBehindArrow(sign);
                 case LAST_NUMBER:
                     return wantedBehindNumberStart(sign, COMMA, DIGIT_OR_COMMA);
                 case DIGIT_OR_COMMA:
-                    return isDigit(sign) ? COMMA : wantedBehind(COMMA, sign);
+                    return isDigit(sign) ? COMMA : wantedBehindComma(sign);
                 default:
                     return REFUSED;
             }
         }
 
         private static int wantedBehindMoveStart(char sign) {
-            switch (sign) {
-                case 'p':
-                case 'j':
-                    return COMMA;
-                case 'c':
-                    return UPPER;
-                case 'l':
-                    return LAST_NUMBER;
-                default:
-                    return isRoll(sign - '0') ? COMMA : REFUSED;
+            if (sign == 'p' || sign == 'j' || isRoll(sign - '0')) {
+                return COMMA;
             }
+            if (sign == 'c') {
+                return UPPER;
+            }
+            return sign == 'l' ? LAST_NUMBER : REFUSED;
+        }
+
+        private static int wantedBehindComma(char sign) {
+            return sign == ',' ? MOVE : REFUSED;
+        }
+
+        private static int wantedBehindArrow(char sign) {
+            return sign == '>' ? LAST_NUMBER : REFUSED;
         }
 
         private static int wantedBehindNumberStart(char sign, int behindZero, int behindOther) {
