@@ -64,7 +64,7 @@ public final class ModelTest {
             } else if (name.equals("append") && codes.isEmpty() && random.nextInt(3) == 0) {
                 a = SIGNS.charAt(random.nextInt(SIGNS.length()));
             }
-            int got = answer(x, name, a, b);
+            int got = Checks.call(x, name, a, b);
             int due = model.call(name, a, b);
             calls.append(name).append(' ').append(a).append(' ').append(b).append(" = ").append(got).append("; ");
             if (got != due) {
@@ -100,36 +100,6 @@ public final class ModelTest {
             default:
                 return random.nextInt(9) - 1;
         }
-    }
-
-    private static int answer(LiftingStairs x, String name, int a, int b) {
-        return switch (name) {
-            case "setTop" -> x.setTop(a);
-            case "lay" -> x.lay(a, b);
-            case "take" -> x.take(a);
-            case "put" -> x.put(a);
-            case "remove" -> x.remove(a);
-            case "join" -> x.join();
-            case "roll" -> x.roll(a);
-            case "pass" -> x.pass();
-            case "climber" -> x.climber(a, b);
-            case "turn" -> x.turn();
-            case "on" -> x.on(a);
-            case "step" -> x.step(a, b);
-            case "total" -> x.total(a);
-            case "rank" -> x.rank(a);
-            case "ifRolled" -> x.ifRolled(a, b);
-            case "bestRoll" -> x.bestRoll();
-            case "quietRolls" -> x.quietRolls();
-            case "rollsToTop" -> x.rollsToTop(a);
-            case "append" -> x.append(a);
-            case "clearText" -> x.clearText();
-            case "errorPosition" -> x.errorPosition();
-            case "play" -> x.play();
-            case "undo" -> x.undo();
-            case "save" -> x.save();
-            default -> x.restore();
-        };
     }
 
     private static final class Climber {

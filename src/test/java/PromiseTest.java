@@ -1,16 +1,5 @@
 /** For each promise of the document: ordinary inputs, the edges, and the wrong inputs in their order. */
-public final class PromiseTest {
-    private static final int NO_SUCH = -1;
-    private static final int BAD_VALUE = -2;
-    private static final int NOT_POSSIBLE = -3;
-    private static final int LIMIT = -4;
-    private static final int BAD_TEXT = -5;
-    private static final int NONE = -6;
-    private static final int[] FAR_OUT = {Integer.MIN_VALUE, Integer.MAX_VALUE, -7, 1000};
-
-    private static int wrong = 0;
-    private static String current = "";
-
+public final class PromiseTest extends Checks {
     public static void main(String[] args) {
         promise1NewObject();
         promise2SetTop();
@@ -42,65 +31,18 @@ public final class PromiseTest {
         promise24WhatIsUndoable();
         promise25Save();
         promise26Restore();
-        System.out.println(wrong == 0 ? "all answers are as due" : wrong + " answers are not as due");
-        if (wrong != 0) {
-            System.exit(1);
-        }
-    }
-
-    private static void due(int want, int got, String what) {
-        if (want != got) {
-            wrong++;
-            System.out.println(current + ": " + what + " answered " + got + ", due is " + want);
-        }
+        end();
     }
 
     private static LiftingStairs stairs(String promise, int climbers) {
-        current = promise;
-        LiftingStairs x = new LiftingStairs();
-        for (int c = 0; c < climbers; c++) {
-            x.join();
-        }
-        return x;
-    }
-
-    private static LiftingStairs fill(LiftingStairs x, String text) {
-        for (int i = 0; i < text.length(); i++) {
-            x.append(text.charAt(i));
-        }
-        return x;
+        about(promise);
+        return stairs(30, climbers);
     }
 
     private static LiftingStairs with(String promise, String text) {
         LiftingStairs x = stairs(promise, 0);
         fill(x, text).play();
         return x;
-    }
-
-    /** All that can be asked of the state, in one row. */
-    private static String look(LiftingStairs x) {
-        StringBuilder all = new StringBuilder();
-        for (int what = 0; what < 9; what++) {
-            all.append(x.total(what)).append(' ');
-        }
-        all.append("turn ").append(x.turn());
-        for (int c = 0; c < 6; c++) {
-            for (int part = 0; part < 7; part++) {
-                all.append(' ').append(x.climber(c, part));
-            }
-        }
-        for (int s = 0; s <= 60; s++) {
-            all.append('|').append(x.step(s, 0)).append(' ').append(x.step(s, 1));
-        }
-        return all.toString();
-    }
-
-    private static void same(String want, LiftingStairs x, String what) {
-        String got = look(x);
-        if (!want.equals(got)) {
-            wrong++;
-            System.out.println(current + ": " + what + ": the state is " + got + ", due is " + want);
-        }
     }
 
     private static void promise1NewObject() {
