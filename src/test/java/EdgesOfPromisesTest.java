@@ -991,18 +991,21 @@ public final class EdgesOfPromisesTest extends Checks {
     /** "Returns the number of climbers"; "overwrites the state that was saved before." */
     private static void saveCountsAndOverwrites() {
         about("25: saves the state");
-        LiftingStairs x = new LiftingStairs();
-        String[] seen = new String[7];
         for (int count = 0; count <= 6; count++) {
-            seen[count] = look(x);
+            LiftingStairs x = stairs(10, count);
+            String seen = look(x);
             due(count, x.save(), "save() of " + count);
-            x.join();
+            x.setTop(11);
             due(count, x.restore(), "restore() of " + count);
-            same(seen[count], x, "the latest saved state");
-            x.join();
+            same(seen, x, "behind restore() of " + count);
+            moves(x, "l9,c8>1");
+            String then = look(x);
+            due(count, x.save(), "save() over that");
+            x.remove(9);
+            due(count, x.restore(), "restore() of the later one");
+            same(then, x, "behind restore() of the later one");
+            due(count, x.save(), "save() of what is saved");
         }
-        due(6, x.save(), "save() twice");
-        due(6, x.save(), "save() twice");
         LiftingStairs y = new LiftingStairs();
         y.save();
         due(NOT_POSSIBLE, y.undo(), "save() is not recorded");
@@ -1022,8 +1025,8 @@ public final class EdgesOfPromisesTest extends Checks {
         LiftingStairs y = new LiftingStairs();
         String nothing = look(y);
         due(0, y.save(), "save() of nothing");
-        y.setTop(60);
-        moves(y, "j,j,j,j,j,j,l59,c58>57,6");
+        y.setTop(20);
+        moves(y, "j,j,j,j,j,j,l19,c18>17,6");
         String much = look(y);
         due(0, y.restore(), "restore() of nothing");
         same(nothing, y, "nothing");
@@ -1033,8 +1036,8 @@ public final class EdgesOfPromisesTest extends Checks {
         due(3, y.undo(), "undo() of the first restore()");
         same(much, y, "all there was");
         due(6, y.save(), "save() of all there was");
-        y.remove(59);
-        y.take(58);
+        y.remove(19);
+        y.take(18);
         y.setTop(10);
         due(6, y.restore(), "restore() of all there was");
         same(much, y, "all there was");

@@ -289,10 +289,13 @@ public final class EdgesOfTermsTest extends Checks {
         due(1, x.climber(0, 1), "tops of 0");
         due(2, x.total(7), "tops of all");
         due(2, x.total(5), "lifts");
-        LiftingStairs y = onSteps(60, 58, 59, 59, 59, 59, 59);
+        LiftingStairs y = onSteps(10, 8, 9, 9, 9, 9, 9);
         due(0, y.roll(2), "0 over five, onto the top");
         due(6, y.total(7), "tops of all");
         due(63, y.on(0), "all on the ground");
+        LiftingStairs z = onSteps(60, 58, 59);
+        due(0, z.roll(2), "0 over 1, onto the greatest top");
+        due(60, z.climber(1, 6), "progress of 1");
     }
 
     /**

@@ -839,17 +839,17 @@ public final class PromiseTest extends Checks {
     private static void promise24Undo() {
         LiftingStairs x = stairs("24 undo", 0);
         due(NOT_POSSIBLE, x.undo(), "undo() of nothing");
-        String[] seen = new String[8];
-        for (int i = 0; i < 7; i++) {
+        String[] seen = new String[6];
+        for (int i = 0; i < 6; i++) {
             seen[i] = look(x);
             x.setTop(11 + i);
         }
         for (int left = 4; left >= 0; left--) {
             due(left, x.undo(), "undo()");
-            same(seen[2 + left], x, "the state ahead of call " + (2 + left));
+            same(seen[1 + left], x, "the state ahead of call " + (1 + left));
         }
         due(NOT_POSSIBLE, x.undo(), "undo() of the sixth");
-        same(seen[2], x, "the state is as before");
+        same(seen[1], x, "the state is as before");
         x.join();
         x.roll(5);
         due(1, x.undo(), "undo()");
@@ -866,28 +866,31 @@ public final class PromiseTest extends Checks {
     }
 
     private static void promise24WhatIsUndoable() {
-        LiftingStairs x = with("24 undoable", "j,j,l4,l6,c9>1,c8>1,4,3,2");
-        x.save();
         for (int what = 0; what < 10; what++) {
-            x.pass();
-            x.pass();
+            LiftingStairs x = threeRecorded();
             String before = look(x);
             change(x, what);
-            due(what == 0 ? 3 : 4, x.undo(), "undo() of change " + what);
+            due(3, x.undo(), "undo() of change " + what);
             same(before, x, "undo() of change " + what);
         }
-        for (int i = 0; i < 4; i++) {
-            x.pass();
-        }
-        String now = look(x);
-        wrongCalls(x);
-        same(now, x, "calls that fail change nothing");
-        due(4, x.undo(), "calls that fail record nothing");
+        LiftingStairs y = threeRecorded();
+        String now = look(y);
+        wrongCalls(y);
+        same(now, y, "calls that fail change nothing");
+        due(2, y.undo(), "calls that fail record nothing");
+        y.pass();
+        now = look(y);
+        questions(y);
+        same(now, y, "questions change nothing");
+        due(2, y.undo(), "questions record nothing");
+    }
+
+    private static LiftingStairs threeRecorded() {
+        LiftingStairs x = with("24 undoable", "j,j,l4,l6,c9>1,c8>1,4,3,2");
+        x.save();
         x.pass();
-        now = look(x);
-        questions(x);
-        same(now, x, "questions change nothing");
-        due(4, x.undo(), "questions record nothing");
+        x.pass();
+        return x;
     }
 
     private static void change(LiftingStairs x, int what) {
@@ -963,7 +966,7 @@ public final class PromiseTest extends Checks {
         String saved = look(x);
         x.save();
         fill(x, "6,j,l5,1,2").play();
-        x.setTop(50);
+        x.setTop(20);
         String later = look(x);
         fill(x, "jj");
         due(3, x.restore(), "restore()");
