@@ -682,7 +682,8 @@ public final class EdgesOfPromisesTest extends Checks {
         for (int ahead = 0; ahead <= 7; ahead++) {
             due(masks[ahead], onSteps(30, 10, 10 + ahead).quietRolls(), "another one " + ahead + " ahead");
             due(126, onSteps(30, 10, 10 - ahead).quietRolls(), "another one " + ahead + " behind");
-            due(masks[ahead], onSteps(30, 10, 29, 29, 29, 29, 10 + ahead).quietRolls(), "the last one " + ahead + " ahead");
+            LiftingStairs last = onSteps(30, 10, 29, 29, 29, 29, 10 + ahead);
+            due(masks[ahead], last.quietRolls(), "the last one " + ahead + " ahead");
             LiftingStairs landing = onSteps(30, 10, 10 + ahead);
             landing.put(10 + ahead);
             due(126, landing.quietRolls(), "another one on a landing " + ahead + " ahead");
